@@ -334,6 +334,12 @@ public final class PromisesTest {
       {4, 9, 0}, {1, 9, 2}, {20, 20, 0}, {-20, -20, 0}, {21, 0, NONE}, {0, 21, NONE}, {-21, 0, NONE}, {0, -21, NONE},
       {HIGHEST, 0, NONE}, {0, LOWEST, NONE}, {-3, 3, 0}, {8, 3, 1}, {-5, 9, 0}, {-5, 0, 0}};
     for (int[] s : spots) due("inside(" + s[0] + ", " + s[1] + ")", x.inside(s[0], s[1]), s[2]);
+    x = on("0,0;5,3;0,9");
+    due("only just within", x.inside(3, 2), 1);
+    due("only just out", x.inside(2, 1), 0);
+    x = on("9,0;9,9;4,3");
+    due("only just out", x.inside(7, 1), 0);
+    due("within", x.inside(7, 2), 1);
   }
 
   // promise 32, parts of 13 and 16
@@ -404,6 +410,15 @@ public final class PromisesTest {
     // (0, 1, 1), (0, 1, -1): rank 2, last number not 0 is the first
     due("rank", x.count(4), 2);
     push("rank 2", x, 1, 0, 0);
+    x = new GraspJudge();
+    x.tread(0, 1);
+    x.put(0, 1);
+    x.put(2, 3);
+    due("turned: rank 1", x.count(4), 1);
+    push("rank 1", x, 1, 0, 0);
+    x.put(1, 1);
+    // (0, 1, -1), (0, -1, 1), (-1, 0, -1): the first two have no cross product
+    push("rank 2 by the second couple", x, -1, 1, 1);
     x = on("0,0;6,3;2,5");
     x.tread(0, 1);
     x.put(0, 2);
@@ -830,6 +845,19 @@ public final class PromisesTest {
     x.undo();
     due("the later one", x.count(2), 1);
     due("two(0) is asked anew", x.two(0), 18);
+    x = pinch();
+    Expect.loads(x, "0,0,0;0,0,0;0,0,0;0,0,0;0,0,0;0,7,0");
+    x.keep();
+    Expect.loads(x, "1,1,1;1,1,1;1,1,1;1,1,1;1,1,1;1,1,1");
+    x.undo();
+    due("all loads are back", x.load(2) * 10 + x.load(3), 71);
+    due("and their sum", x.load(4) * 10 + x.load(5), 71);
+    for (int i = 0; i < 20; i++) x.tread(1, 1);
+    x.keep();
+    for (int i = 0; i < 20; i++) x.centre(1, 1);
+    x.undo();
+    for (int k = 0; k < 20; k++) due("all past is back, past(" + k + ", 0)", x.past(k, 0), 2);
+    due("rank then", x.past(19, 3), 3);
   }
 
   // promise 39

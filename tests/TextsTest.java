@@ -56,6 +56,9 @@ public final class TextsTest {
     plate("0,0;8,0;8,8;4,0;0,8", -5019);
     plate("0,0;4,0;4,4;6,6;2,6;4,4;0,4", -5027);
     plate("0,0;9,0;9,2;5,2;5,0;3,0;3,4;0,4", -5031);
+    // neighbours' neighbours cross, with an area above 0
+    plate("0,2;9,2;9,9;1,0", -5015);
+    plate("0,0;6,6;0,3;9,0;9,9", -5019);
     // round twice
     plate("0,0;9,0;9,9;1,9;1,1;8,1;8,8;0,8", -5031);
     // only just apart
@@ -83,6 +86,12 @@ public final class TextsTest {
     order("take1", -1004);
     order("takes 1", -1000);
     order("tak 1", -1000);
+    order("takez 1", -1000);
+    order("takea 1", -1000);
+    order("take{1", -1004);
+    order("take`1", -1004);
+    order("tbke 1", -1000);
+    order("abc 1 2", -1000);
     order("t", -1000);
     order("Take 1", -1000);
     order("", -1);

@@ -1301,16 +1301,16 @@ public final class GraspJudge {
             return m == 0 ? 1 : 2;
         }
 
-        // m and q are told, since ROUGH asks by others than TREAD's
-        void press(Bundle bundle, int owner, int e, int k, int m, int q) {
+        // the tread is told, since ROUGH asks by others than the one that is set
+        void press(Bundle bundle, int owner, int e, int k, int along, int inward) {
             if (!plate.hasPlace(e, k)) {
                 return;
             }
             int x = plate.stepX(e, k) - centreX;
             int y = plate.stepY(e, k) - centreY;
-            for (int sign = 1; sign >= (m == 0 ? 1 : -1); sign -= 2) {
-                int fx = -q * plate.alongY[e] + sign * m * plate.alongX[e];
-                int fy = q * plate.alongX[e] + sign * m * plate.alongY[e];
+            for (int sign = 1; sign >= (along == 0 ? 1 : -1); sign -= 2) {
+                int fx = -inward * plate.alongY[e] + sign * along * plate.alongX[e];
+                int fy = inward * plate.alongX[e] + sign * along * plate.alongY[e];
                 int g = (int) divisor(fx, fy);
                 if (g > 1) {
                     fx /= g;
