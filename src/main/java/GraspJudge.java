@@ -4,6 +4,8 @@ public final class GraspJudge {
     public static final long NO_NUMBER = -9000000000000000000L;
 
     private static final int ABSENT = -2;
+    private static final int OCCUPIED = -2;
+    private static final int NO_SUCH_TEXT = -2;
     private static final int FULL = -3;
 
     private static final int MOST_CORNERS = 8;
@@ -202,7 +204,7 @@ public final class GraspJudge {
 
     public int check(int n) {
         if (!tape.offers(n, 0, CHECK_TEXT)) {
-            return ABSENT;
+            return NO_SUCH_TEXT;
         }
         int wrong = firstWrong(n);
         tape.wipe();
@@ -234,7 +236,7 @@ public final class GraspJudge {
             return NONE;
         }
         if (now.fingerAt(edge, k) >= 0) {
-            return ABSENT;
+            return OCCUPIED;
         }
         if (now.fingers >= MOST_FINGERS) {
             return FULL;
