@@ -30,6 +30,7 @@ public final class LanguageTest {
     String code = bare(source);
     words(code);
     methods(code);
+    depths();
     Expect.finish();
   }
 
@@ -73,6 +74,14 @@ public final class LanguageTest {
         Expect.holds("a public one's name: " + m, !hidden || !names.contains(m.getName()));
       }
       if (c != GraspJudge.class) Expect.holds("static: " + c, Modifier.isStatic(c.getModifiers()));
+    }
+  }
+
+  /** Calls go at most eight deep, the library's counted too, and none comes back to itself. */
+  private static void depths() throws Exception {
+    for (List<String> chain : Calls.chains()) {
+      Expect.holds("too deep: " + chain, chain.size() <= 8);
+      Expect.holds("a recursion: " + chain, !chain.get(chain.size() - 1).startsWith("and so on"));
     }
   }
 

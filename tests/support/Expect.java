@@ -4,14 +4,20 @@ final class Expect {
 
   private static int wrong = 0;
   private static int asked = 0;
+  private static String topic = "";
 
   private Expect() { }
+
+  /** What the next answers are about; it is told ahead of each that is wrong. */
+  static void about(String words) {
+    topic = words;
+  }
 
   static void due(String call, long got, long want) {
     asked++;
     if (got != want) {
       wrong++;
-      if (wrong <= 40) System.out.println(call + " answered " + got + ", due is " + want);
+      if (wrong <= 40) System.out.println(topic + call + " answered " + got + ", due is " + want);
     }
   }
 
@@ -23,7 +29,7 @@ final class Expect {
     asked++;
     if (!so) {
       wrong++;
-      if (wrong <= 40) System.out.println(what);
+      if (wrong <= 40) System.out.println(topic + what);
     }
   }
 

@@ -882,14 +882,14 @@ public final class GraspJudge {
     }
 
     private static long divisor(long a, long b) {
-        long high = Math.abs(a);
-        long low = Math.abs(b);
+        long high = a;
+        long low = b;
         for (int i = 0; i < 200 && low != 0; i++) {
             long rest = high % low;
             high = low;
             low = rest;
         }
-        return high;
+        return high < 0 ? -high : high;
     }
 
     /** A number of at least 0 in lowest terms. */
@@ -1400,10 +1400,13 @@ public final class GraspJudge {
         }
 
         private void sort(int c) {
+            long x = crossX[c];
+            long y = crossY[c];
+            long turning = crossT[c];
             int over = 0;
             int under = 0;
             for (int k = 0; k < size; k++) {
-                long makes = volume(k, c);
+                long makes = fx[k] * x + fy[k] * y + t[k] * turning;
                 if (makes > 0) {
                     over |= 1 << k;
                 } else if (makes < 0) {
@@ -1636,10 +1639,12 @@ public final class GraspJudge {
         private long y = 0;
         private long t = 0;
         private long offset = 0;
+        private long width = 0;
         private long planeX = 0;
         private long planeY = 0;
         private long planeT = 0;
         private long planeOffset = 0;
+        private long planeWidth = 0;
 
         void survey(Bundle bundle) {
             size = 0;
@@ -1650,7 +1655,7 @@ public final class GraspJudge {
                     }
                 }
             }
-            weakest.become(offset, width(x, y, t));
+            weakest.become(offset, width);
         }
 
         private void consider(Bundle bundle, int i, int j, int k) {
@@ -1705,19 +1710,21 @@ public final class GraspJudge {
             planeY /= g;
             planeT /= g;
             planeOffset /= g;
+            planeWidth = Math.abs(planeX) + Math.abs(planeY) + Math.abs(planeT);
             if (size == 0 || isWeaker()) {
                 x = planeX;
                 y = planeY;
                 t = planeT;
                 offset = planeOffset;
+                width = planeWidth;
             }
             known[size] = touching;
             size++;
         }
 
         private boolean isWeaker() {
-            long mine = planeOffset * width(x, y, t);
-            long least = offset * width(planeX, planeY, planeT);
+            long mine = planeOffset * width;
+            long least = offset * planeWidth;
             if (mine != least) {
                 return mine < least;
             }
@@ -1725,10 +1732,6 @@ public final class GraspJudge {
                 return planeX < x;
             }
             return planeY != y ? planeY < y : planeT < t;
-        }
-
-        private static long width(long a, long b, long c) {
-            return Math.abs(a) + Math.abs(b) + Math.abs(c);
         }
     }
 
@@ -1831,8 +1834,8 @@ public final class GraspJudge {
 
         // numbers a, b, c by one line; sets come fewest first and in rows, so a like sum never wins
         private boolean improves(int many, long a, long b, long c, long line) {
-            int sign = Long.signum(line);
-            if (sign * a <= 0 || many > 1 && sign * b <= 0 || many > 2 && sign * c <= 0) {
+            int sign = line < 0 ? -1 : 1;
+            if (line == 0 || sign * a <= 0 || many > 1 && sign * b <= 0 || many > 2 && sign * c <= 0) {
                 return false;
             }
             long total = sign * (a + b + c);
