@@ -104,8 +104,8 @@ public final class BoundariesTest {
     fresh().feed("put 0 1;put 0 2;put 0 3").due(2, "orders", 15).due(2, "count", 2).due(0, "count", 14).due(NONE, "orders", 1);
     fresh().orders(0, "take 0").due(0, "count", 14).orders(1, "put 0 1;take 1").orders(2, "take 0;put 0 1;put 0 1");
     says("a FAULT (nothing is done);");
-    pinch().orders(-1014, "tread 2 1;take").due(2, "count", 2).orders(-1017, "tread 2 1;take 0;").orders(-2017, "tread 2 1;take 000").orders(-1010, "tread 2 1;x").due(1, "count", 7)
-        .orders(-4084, "take 0;".repeat(12) + "take 0").row("past", at(0), 0, 2, 1, 3);
+    pinch().orders(-1014, "tread 2 1;take").due(2, "count", 2).orders(-1017, "tread 2 1;take 0;")
+        .orders(-2017, "tread 2 1;take 000").orders(-1010, "tread 2 1;x").due(1, "count", 7).orders(-4084, "take 0;".repeat(12) + "take 0").row("past", at(0), 0, 2, 1, 3);
     says("NONE: as above.");
     fresh().each(NONE, "orders", 0, 1, -1, 120, 121, LOWEST, HIGHEST);
     filled(100).each(NONE, "orders", 0, 101, 120, -1, 121, LOWEST, HIGHEST).due(100, "count", 14).due(-1000, "orders", 100);
